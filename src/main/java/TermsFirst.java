@@ -963,7 +963,7 @@ public final class TermsFirst {
         }
     }
 
-    /** Reads the clauses of a text and carries them out at once, on a draft that may be thrown away. */
+    /** Reads the clauses of a text and carries them out at once, on a draft that a fault makes worthless. */
     private static final class ClauseReader {
         /** How many clauses were read and found right. */
         int clauses = 0;
@@ -1023,7 +1023,8 @@ public final class TermsFirst {
         }
 
         private int takeSection(Manual draft) {
-            return takeNumber(0, draft.n - 1);
+            text.take();
+            return text.asNumber(0, draft.n - 1);
         }
 
         private boolean readSections(Manual draft) {

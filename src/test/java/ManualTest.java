@@ -7,6 +7,7 @@ public final class ManualTest {
         looseTerms();
         needsAndComponents();
         rings();
+        everythingUsed();
         Script.end();
     }
 
@@ -77,5 +78,38 @@ public final class ManualTest {
                 .told("sections 5;home a 1;home b 2;home c 3;home d 0;home e 4", 6)
                 .told("uses 0 abe;uses 4 c;uses 2 c;uses 3 d;uses 1 e", 5)
                 .run("ring(-1) = 3; ring(0) = 0; ring(1) = 2; ring(2) = 3");
+    }
+
+    /** The largest manual: ten sections of nine pages, each of which uses all twelve terms. */
+    private static void everythingUsed() {
+        Script s = largestManual();
+        s.run("count(0) = 10; count(1) = 11; count(2) = 0; count(3) = 12; count(4) = 120; count(5) = 63;"
+                + "count(6) = 0; count(7) = 567; count(8) = 1; count(9) = 8; count(11) = 90; section(0, 4) = 4094;"
+                + "section(8, 4) = 3584; section(9, 4) = 0; section(9, 3) = 3584; section(0, 5) = 4094;"
+                + "section(1, 5) = 0; section(9, 2) = 4095; term(0, 1) = 1023; term(11, 1) = 1023; term(11, 2) = 0;"
+                + "term(11, 3) = 81; term(0, 2) = -1; ring(-1) = 2; ring(0) = 0; ring(1) = 1; least(0) = 511;"
+                + "least(1) = 9; least(2) = 9; least(3) = 405; would(9, 11) = 9; after(9, 0) = 9; after(8, 0) = 11;"
+                + "keep(0) = 11; settle() = 9; count(1) = 9; undo() = 7; back(0) = 11")
+                .bestIs(9, 0, 1, 2, 3, 4, 5, 6, 7, 8).ordered(0, 1, 2, 3, 4, 5, 6, 7, 8, 9);
+        for (int section = 0; section < 10; section++) {
+            s.run("section(" + section + ", 1) = 9; section(" + section + ", 7) = 1023;"
+                    + "section(" + section + ", 6) = " + (1023 - (1 << section)));
+        }
+    }
+
+    private static Script largestManual() {
+        Script s = new Script("everything used").told("sections 10;home a 0;home b 1;home c 2;home d 3;home e 4", 6)
+                .told("home f 5;home g 6;home h 7;home i 8;home j 9;home k 9;home l 9", 7)
+                .told("uses0abcdefghijkl;uses1abcdefghijkl;uses2abcdefghijkl;uses3abcdefghijkl", 4)
+                .told("uses4abcdefghijkl;uses5abcdefghijkl;uses6abcdefghijkl;uses7abcdefghijkl", 4);
+        for (int section = 8; section < 10; section++) {
+            for (int term = 0; term < 12; term++) {
+                s.run("uses(" + section + ", " + term + ", 1) = 1");
+            }
+        }
+        for (int section = 0; section < 10; section++) {
+            s.run("pages(" + section + ", 9) = 1");
+        }
+        return s;
     }
 }
