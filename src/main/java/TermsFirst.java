@@ -396,6 +396,24 @@ public final class TermsFirst {
             }
         }
 
+        boolean isSame(Manual other) {
+            if (n != other.n) {
+                return false;
+            }
+            for (int s = 0; s < n; s++) {
+                if (lengths[s] != other.lengths[s] || used[s] != other.used[s]
+                        || order[s] != other.order[s] || before[s] != other.before[s]) {
+                    return false;
+                }
+            }
+            for (int t = 0; t < TERMS; t++) {
+                if (homes[t] != other.homes[t]) {
+                    return false;
+                }
+            }
+            return true;
+        }
+
         void takeOrder(int[] sections) {
             for (int p = 0; p < n; p++) {
                 order[p] = sections[p];
@@ -766,89 +784,79 @@ public final class TermsFirst {
         private static final int NOTE_COST = 64;
         private static final int TOO_MUCH = 1000000;
 
-        int notes;
-        int inversions;
+        int notes = 0;
+        int inversions = 0;
         final int[] order = new int[MOST_SECTIONS];
-        private int n;
+        /** The manual of the latest search, since one place after the other is often asked for. */
+        private final Manual manual = new Manual();
+        private boolean isFound = false;
         private final int[] defined = new int[MOST_SECTIONS];
-        /** For each section those that come after it in the present order. */
-        private final int[] later = new int[MOST_SECTIONS];
+        /** For each set of sections the terms that they use. */
+        private final int[] seen = new int[1 << MOST_SECTIONS];
         /** For each set of sections already placed the least cost of placing the others. */
         private final int[] costs = new int[1 << MOST_SECTIONS];
+        /** For each such set the section to be placed next. */
+        private final int[] choices = new int[1 << MOST_SECTIONS];
 
-        void find(Manual manual) {
-            prepare(manual);
-            int all = (1 << n) - 1;
+        void find(Manual asked) {
+            if (isFound && manual.isSame(asked)) {
+                return;
+            }
+            manual.become(asked);
+            isFound = true;
+            gatherTerms();
+            int all = (1 << manual.n) - 1;
             costs[all] = 0;
             for (int placed = all - 1; placed >= 0; placed--) {
-                costs[placed] = leastCost(manual, placed);
+                choose(placed);
             }
             notes = costs[0] / NOTE_COST;
             inversions = costs[0] % NOTE_COST;
-            writeOrder(manual);
+            writeOrder();
         }
 
-        private void prepare(Manual manual) {
-            n = manual.n;
-            int behind = 0;
-            for (int p = n - 1; p >= 0; p--) {
-                int s = manual.order[p];
+        private void gatherTerms() {
+            seen[0] = 0;
+            for (int s = 0; s < manual.n; s++) {
                 defined[s] = manual.termsAtHome(s);
-                later[s] = behind;
-                behind = with(behind, s);
+                for (int lower = 0; lower < 1 << s; lower++) {
+                    seen[with(lower, s)] = seen[lower] | manual.used[s];
+                }
             }
         }
 
-        private int leastCost(Manual manual, int placed) {
-            int seen = termsSeen(manual, placed);
+        /** Goes from the end of the present order, so that of several sections the first one stays. */
+        private void choose(int placed) {
             int least = TOO_MUCH;
-            for (int s = 0; s < n; s++) {
-                if (canFollow(manual, placed, s)) {
-                    least = Math.min(least, costThrough(placed, seen, s));
-                }
-            }
-            return least;
-        }
-
-        private int termsSeen(Manual manual, int placed) {
-            int seen = 0;
-            for (int s = 0; s < n; s++) {
-                if (has(placed, s)) {
-                    seen |= manual.used[s];
-                }
-            }
-            return seen;
-        }
-
-        private boolean canFollow(Manual manual, int placed, int section) {
-            return !has(placed, section) && (manual.before[section] & ~placed) == 0;
-        }
-
-        private int costThrough(int placed, int seen, int section) {
-            return Integer.bitCount(defined[section] & seen) * NOTE_COST
-                    + Integer.bitCount(placed & later[section])
-                    + costs[with(placed, section)];
-        }
-
-        private void writeOrder(Manual manual) {
-            int placed = 0;
-            for (int p = 0; p < n; p++) {
-                int s = cheapestSection(manual, placed);
-                order[p] = s;
-                placed = with(placed, s);
-            }
-        }
-
-        /** Of several cheapest ones that which comes first in the present order. */
-        private int cheapestSection(Manual manual, int placed) {
-            int seen = termsSeen(manual, placed);
-            for (int p = 0; p < n; p++) {
+            int choice = 0;
+            int behind = 0;
+            for (int p = manual.n - 1; p >= 0; p--) {
                 int s = manual.order[p];
-                if (canFollow(manual, placed, s) && costThrough(placed, seen, s) == costs[placed]) {
-                    return s;
+                if (has(placed, s)) {
+                    behind++;
+                } else if ((manual.before[s] & ~placed) == 0) {
+                    int cost = noteCost(placed, s) + behind + costs[with(placed, s)];
+                    if (cost <= least) {
+                        least = cost;
+                        choice = s;
+                    }
                 }
             }
-            return 0;
+            costs[placed] = least;
+            choices[placed] = choice;
+        }
+
+        private int noteCost(int placed, int section) {
+            int noted = defined[section] & seen[placed];
+            return noted == 0 ? 0 : Integer.bitCount(noted) * NOTE_COST;
+        }
+
+        private void writeOrder() {
+            int placed = 0;
+            for (int p = 0; p < manual.n; p++) {
+                order[p] = choices[placed];
+                placed = with(placed, order[p]);
+            }
         }
     }
 

@@ -8,6 +8,7 @@ public final class BestOrderTest {
         precedences();
         tenSections();
         would();
+        askedAgain();
         Script.end();
     }
 
@@ -71,5 +72,23 @@ public final class BestOrderTest {
                 + "least(1) = 0; ahead(2, 0) = 1; would(2, 0) = 1; would(3, 0) = 0; count(4) = 1; uses(1, 0, 1) = 1;"
                 + "would(1, 0) = 1; would(2, 0) = 1; least(1) = 1; least(0) = 2; least(2) = 0; would(2, 1) = 1;"
                 + "count(1) = 1; count(4) = 2; count(9) = 2");
+    }
+
+    /** The best order is that of the manual as it is now, whatever was asked before. */
+    private static void askedAgain() {
+        new Script("asked again").bestIs(0, 1, 2, 3).run("home(0, 1) = -1; uses(0, 0, 1) = 1").bestIs(1, 0, 2, 3)
+                .run("ahead(0, 1) = 1; least(1) = 1").bestIs(0, 1, 2, 3).run("loosen(0, 1) = 0").bestIs(1, 0, 2, 3)
+                .run("home(0, 3) = 1; least(2) = 3").bestIs(1, 2, 3, 0).run("uses(0, 0, 0) = 1; least(2) = 0")
+                .bestIs(0, 1, 2, 3).run("undo() = 5; least(2) = 3").bestIs(1, 2, 3, 0)
+                .run("move(3, 0) = 0; least(2) = 0").bestIs(3, 0, 1, 2)
+                .run("keep(0) = 0; undo() = 5; least(2) = 3; back(0) = 0; least(2) = 0").bestIs(3, 0, 1, 2)
+                .run("would(3, 11) = 0; home(11, 1) = -1; would(3, 11) = 0; least(1) = 0; ahead(3, 1) = 1;"
+                        + "would(3, 11) = 1; least(1) = 0; least(0) = 0");
+        new Script("asked again after pages").told("ahead 1 3;home a 3;uses 1 a", 3)
+                .run("least(3) = 2; pages(1, 5) = 1; least(3) = 6; pages(2, 9) = 1; least(3) = 14; undo() = 1;"
+                        + "least(3) = 6");
+        new Script("asked again with another n").told("sections 2", 1).bestIs(0, 1).told("sections 4", 1)
+                .bestIs(0, 1, 2, 3).told("sections 10", 1).bestIs(0, 1, 2, 3, 4, 5, 6, 7, 8, 9)
+                .told("sections 3", 1).bestIs(0, 1, 2).run("best(3) = -2");
     }
 }
