@@ -87,6 +87,15 @@ public final class BestOrderTest {
         new Script("asked again after pages").told("ahead 1 3;home a 3;uses 1 a", 3)
                 .run("least(3) = 2; pages(1, 5) = 1; least(3) = 6; pages(2, 9) = 1; least(3) = 14; undo() = 1;"
                         + "least(3) = 6");
+        Script homes = new Script("asked again with all homes changed").told("sections 2;uses 0 abcdefghijkl", 2);
+        for (int term = 0; term < 12; term++) {
+            homes.run("home(" + term + ", 0) = -1");
+        }
+        homes.run("keep(0) = 0").bestIs(0, 1);
+        for (int term = 0; term < 12; term++) {
+            homes.run("home(" + term + ", 1) = 0");
+        }
+        homes.run("keep(1) = 12").bestIs(1, 0).run("back(0) = 0").bestIs(0, 1).run("back(1) = 12").bestIs(1, 0);
         new Script("asked again with another n").told("sections 2", 1).bestIs(0, 1).told("sections 4", 1)
                 .bestIs(0, 1, 2, 3).told("sections 10", 1).bestIs(0, 1, 2, 3, 4, 5, 6, 7, 8, 9)
                 .told("sections 3", 1).bestIs(0, 1, 2).run("best(3) = -2");
