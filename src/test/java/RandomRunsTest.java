@@ -14,13 +14,10 @@ public final class RandomRunsTest {
         32, 33, 64, 255, 256, 1000000, Integer.MAX_VALUE};
 
     private final Random random;
-    private final TermsFirst x = new TermsFirst();
-    private final PlainModel model = new PlainModel();
-    private final List<String> calls = new ArrayList<>();
+    private final Pair pair = new Pair("random run");
     private final int mostSections;
     /** Trying all orders of ten sections takes the model too long to do it often. */
     private boolean asksForBest = true;
-    private boolean isWrong = false;
 
     private RandomRunsTest(long seed, int mostSections) {
         random = new Random(seed);
@@ -39,8 +36,8 @@ public final class RandomRunsTest {
         for (int i = 0; i < 200 * factor; i++) {
             RandomRunsTest test = new RandomRunsTest(base + 300000 + i, 10);
             test.asksForBest = false;
-            test.type("sections 10");
-            test.call("tell");
+            test.pair.type("sections 10");
+            test.pair.call("tell");
             test.run(500);
         }
         for (int i = 0; i < 1500 * factor; i++) {
@@ -50,15 +47,15 @@ public final class RandomRunsTest {
     }
 
     private void run(int most) {
-        while (calls.size() < most && !isWrong) {
+        while (pair.calls() < most && !pair.isOver()) {
             int kind = random.nextInt(40);
-            if (kind == 0 && calls.size() + 130 < most) {
-                type(manual());
-                call("tell");
-            } else if (kind == 1 && calls.size() + 130 < most) {
-                type(spoilt(clauses(1 + random.nextInt(5), 4)));
-                call("fault");
-                call("tell");
+            if (kind == 0 && pair.calls() + 130 < most) {
+                pair.type(manual());
+                pair.call("tell");
+            } else if (kind == 1 && pair.calls() + 130 < most) {
+                pair.type(spoilt(clauses(1 + random.nextInt(5), 4)));
+                pair.call("fault");
+                pair.call("tell");
             } else {
                 drawnCall();
             }
@@ -67,26 +64,26 @@ public final class RandomRunsTest {
 
     /** Texts alone, up to the length of the buffer. */
     private void texts() {
-        while (calls.size() < 250 && !isWrong) {
-            String text = clauses(1 + random.nextInt(random.nextInt(4) == 0 ? 26 : 6), model.count(0));
-            type(random.nextBoolean() ? text : spoilt(text));
-            call("fault");
-            call("tell");
+        while (pair.calls() < 250 && !pair.isOver()) {
+            String text = clauses(1 + random.nextInt(random.nextInt(4) == 0 ? 26 : 6), pair.model.count(0));
+            pair.type(random.nextBoolean() ? text : spoilt(text));
+            pair.call("fault");
+            pair.call("tell");
             compareManual();
         }
     }
 
     private void compareManual() {
-        int n = model.count(0);
+        int n = pair.model.count(0);
         for (int s = 0; s < n; s++) {
-            call("section", s, 0);
-            call("section", s, 1);
-            call("section", s, 2);
-            call("section", s, 3);
-            call("section", s, 8);
+            pair.call("section", s, 0);
+            pair.call("section", s, 1);
+            pair.call("section", s, 2);
+            pair.call("section", s, 3);
+            pair.call("section", s, 8);
         }
-        call("count", 0);
-        call("count", 10);
+        pair.call("count", 0);
+        pair.call("count", 10);
     }
 
     private void drawnCall() {
@@ -104,21 +101,21 @@ public final class RandomRunsTest {
     }
 
     private void callOf(String method) {
-        int n = model.count(0);
+        int n = pair.model.count(0);
         switch (method) {
-            case "write" -> call(method, number(0, 255));
+            case "write" -> pair.call(method, number(0, 255));
             case "settle", "best", "least", "would" -> callOfBest(method, n);
-            case "erase", "fault", "tell", "undo" -> call(method);
-            case "pages" -> call(method, number(0, n - 1), number(1, 9));
-            case "uses" -> call(method, number(0, n - 1), number(0, 11), random.nextInt(4) > 0 ? 1 : number(0, 1));
-            case "home" -> call(method, number(0, 11), number(random.nextInt(5) == 0 ? -1 : 0, n - 1));
-            case "ahead", "loosen", "move", "after" -> call(method, number(0, n - 1), number(0, n - 1));
-            case "keep", "back" -> call(method, number(0, 1));
-            case "at" -> call(method, number(0, n - 1));
-            case "section" -> call(method, number(0, n - 1), number(0, 8));
-            case "term" -> call(method, number(0, 11), number(0, 4));
-            case "ring" -> call(method, number(-1, n));
-            default -> call(method, number(0, 11));
+            case "erase", "fault", "tell", "undo" -> pair.call(method);
+            case "pages" -> pair.call(method, number(0, n - 1), number(1, 9));
+            case "uses" -> pair.call(method, number(0, n - 1), number(0, 11), random.nextInt(4) > 0 ? 1 : number(0, 1));
+            case "home" -> pair.call(method, number(0, 11), number(random.nextInt(5) == 0 ? -1 : 0, n - 1));
+            case "ahead", "loosen", "move", "after" -> pair.call(method, number(0, n - 1), number(0, n - 1));
+            case "keep", "back" -> pair.call(method, number(0, 1));
+            case "at" -> pair.call(method, number(0, n - 1));
+            case "section" -> pair.call(method, number(0, n - 1), number(0, 8));
+            case "term" -> pair.call(method, number(0, 11), number(0, 4));
+            case "ring" -> pair.call(method, number(-1, n));
+            default -> pair.call(method, number(0, 11));
         }
     }
 
@@ -127,10 +124,10 @@ public final class RandomRunsTest {
             return;
         }
         switch (method) {
-            case "settle" -> call(method);
-            case "best" -> call(method, number(0, n - 1));
-            case "least" -> call(method, number(0, 3));
-            default -> call(method, number(0, n - 1), number(0, 11));
+            case "settle" -> pair.call(method);
+            case "best" -> pair.call(method, number(0, n - 1));
+            case "least" -> pair.call(method, number(0, 3));
+            default -> pair.call(method, number(0, n - 1), number(0, 11));
         }
     }
 
@@ -234,79 +231,5 @@ public final class RandomRunsTest {
             }
         }
         return changed.toString();
-    }
-
-    private void type(String text) {
-        call("erase");
-        for (int i = 0; i < text.length() && i < 201; i++) {
-            call("write", text.charAt(i));
-        }
-    }
-
-    private void call(String method, int... a) {
-        if (isWrong || calls.size() >= 512) {
-            return;
-        }
-        calls.add(method + java.util.Arrays.toString(a));
-        int want = modelAnswer(method, a);
-        int got = answer(method, a);
-        Script.due("random run", String.join(" ", got == want ? List.of() : calls), got, want);
-        isWrong = got != want;
-    }
-
-    private int answer(String method, int[] a) {
-        return switch (method) {
-            case "write" -> x.write(a[0]);
-            case "erase" -> x.erase();
-            case "fault" -> x.fault();
-            case "tell" -> x.tell();
-            case "pages" -> x.pages(a[0], a[1]);
-            case "uses" -> x.uses(a[0], a[1], a[2]);
-            case "home" -> x.home(a[0], a[1]);
-            case "ahead" -> x.ahead(a[0], a[1]);
-            case "loosen" -> x.loosen(a[0], a[1]);
-            case "move" -> x.move(a[0], a[1]);
-            case "settle" -> x.settle();
-            case "undo" -> x.undo();
-            case "keep" -> x.keep(a[0]);
-            case "back" -> x.back(a[0]);
-            case "at" -> x.at(a[0]);
-            case "section" -> x.section(a[0], a[1]);
-            case "term" -> x.term(a[0], a[1]);
-            case "ring" -> x.ring(a[0]);
-            case "best" -> x.best(a[0]);
-            case "least" -> x.least(a[0]);
-            case "would" -> x.would(a[0], a[1]);
-            case "after" -> x.after(a[0], a[1]);
-            default -> x.count(a[0]);
-        };
-    }
-
-    private int modelAnswer(String method, int[] a) {
-        return switch (method) {
-            case "write" -> model.write(a[0]);
-            case "erase" -> model.erase();
-            case "fault" -> model.fault();
-            case "tell" -> model.tell();
-            case "pages" -> model.pages(a[0], a[1]);
-            case "uses" -> model.uses(a[0], a[1], a[2]);
-            case "home" -> model.home(a[0], a[1]);
-            case "ahead" -> model.ahead(a[0], a[1]);
-            case "loosen" -> model.loosen(a[0], a[1]);
-            case "move" -> model.move(a[0], a[1]);
-            case "settle" -> model.settle();
-            case "undo" -> model.undo();
-            case "keep" -> model.keep(a[0]);
-            case "back" -> model.back(a[0]);
-            case "at" -> model.at(a[0]);
-            case "section" -> model.section(a[0], a[1]);
-            case "term" -> model.term(a[0], a[1]);
-            case "ring" -> model.ring(a[0]);
-            case "best" -> model.best(a[0]);
-            case "least" -> model.least(a[0]);
-            case "would" -> model.would(a[0], a[1]);
-            case "after" -> model.after(a[0], a[1]);
-            default -> model.count(a[0]);
-        };
     }
 }

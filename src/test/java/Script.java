@@ -8,9 +8,6 @@ final class Script {
     private static int wrong = 0;
     private static int checked = 0;
 
-    /** The document promises nothing beyond these many calls of an object. */
-    private static final int MOST_CALLS = 512;
-
     private final String name;
     private final TermsFirst x = new TermsFirst();
     private int calls = 0;
@@ -36,8 +33,8 @@ final class Script {
 
     /** Writes a text behind what is there. */
     Script type(String text) {
+        countCall();
         int length = x.count(10);
-        calls++;
         for (int i = 0; i < text.length(); i++) {
             due("write " + (int) text.charAt(i), x.write(text.charAt(i)), length + i + 1);
         }
@@ -46,8 +43,8 @@ final class Script {
 
     /** Empties the text, writes another, and compares its fault; with a fault tell() changes nothing. */
     Script faulty(String text, int fault) {
+        countCall();
         x.erase();
-        calls++;
         type(text);
         due("fault() of \"" + text + "\"", x.fault(), fault);
         if (fault != TermsFirst.NONE) {
@@ -89,6 +86,36 @@ final class Script {
         return this;
     }
 
+    /** The whole manual, the length of the text and how much can be undone. */
+    String picture() {
+        int n = ask("count", "0");
+        StringBuilder seen = new StringBuilder().append(n).append(" sections, undo ").append(ask("count", "9"))
+                .append(", text ").append(ask("count", "10"));
+        for (int section = 0; section < n; section++) {
+            seen.append(" |");
+            for (int what : new int[] {0, 1, 2, 3, 8}) {
+                seen.append(' ').append(ask("section", section + ", " + what));
+            }
+        }
+        return seen.toString();
+    }
+
+    /** The answer of a call, where two objects are compared. */
+    int ask(String method, String arguments) {
+        countCall();
+        return answer(method, arguments);
+    }
+
+    int calls() {
+        return calls;
+    }
+
+    private void countCall() {
+        if (++calls > Pair.MOST_CALLS) {
+            throw new IllegalStateException(name + ": too many calls of one object");
+        }
+    }
+
     private int answer(String method, String arguments) {
         String[] words = arguments.isBlank() ? new String[0] : arguments.split(",");
         Object[] numbers = new Object[words.length];
@@ -106,9 +133,7 @@ final class Script {
     }
 
     private void due(String call, int got, int want) {
-        if (++calls > MOST_CALLS) {
-            throw new IllegalStateException(name + ": too many calls of one object");
-        }
+        countCall();
         due(name, call, got, want);
     }
 
@@ -117,6 +142,14 @@ final class Script {
         if (got != want) {
             wrong++;
             System.out.println(name + ": " + call + " answered " + got + ", due is " + want);
+        }
+    }
+
+    static void same(String name, String what, String got, String want) {
+        checked++;
+        if (!got.equals(want)) {
+            wrong++;
+            System.out.println(name + ": " + what + " is " + got + ", due is " + want);
         }
     }
 
