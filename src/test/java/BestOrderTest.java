@@ -87,6 +87,8 @@ public final class BestOrderTest {
         new Script("asked again after pages").told("ahead 1 3;home a 3;uses 1 a", 3)
                 .run("least(3) = 2; pages(1, 5) = 1; least(3) = 6; pages(2, 9) = 1; least(3) = 14; undo() = 1;"
                         + "least(3) = 6");
+        new Script("asked again with the uses of all sections changed").told("sections 2;home a 1", 2).bestIs(0, 1)
+                .run("uses(0, 0, 1) = 1; uses(1, 5, 1) = 1").bestIs(1, 0).run("least(2) = 1");
         Script homes = new Script("asked again with all homes changed").told("sections 2;uses 0 abcdefghijkl", 2);
         for (int term = 0; term < 12; term++) {
             homes.run("home(" + term + ", 0) = -1");
@@ -99,5 +101,10 @@ public final class BestOrderTest {
         new Script("asked again with another n").told("sections 2", 1).bestIs(0, 1).told("sections 4", 1)
                 .bestIs(0, 1, 2, 3).told("sections 10", 1).bestIs(0, 1, 2, 3, 4, 5, 6, 7, 8, 9)
                 .told("sections 3", 1).bestIs(0, 1, 2).run("best(3) = -2");
+        new Script("asked again with a smaller n").told("sections 10;ahead 8 9;home a 9;uses 8 a;home b 8;uses 2 b", 6)
+                .run("least(1) = 1; least(2) = 6; least(0) = 1").told("sections 2", 1).run("least(1) = 0; least(2) = 0;"
+                        + "least(0) = 0; least(3) = 0").bestIs(0, 1)
+                .told("sections 4;home a 3;uses 0 a", 3).run("least(1) = 0; least(2) = 3").bestIs(1, 2, 3, 0)
+                .told("sections 3", 1).run("least(1) = 0; least(2) = 0; settle() = 0").ordered(0, 1, 2);
     }
 }

@@ -184,6 +184,12 @@ public final class TextEdgesTest {
                     .freshly(word.substring(0, word.length() - 1), 0).freshly(word + "z", 0)
                     .freshly(word, word.length()).freshly(Character.toUpperCase(word.charAt(0)) + word.substring(1), 0);
         }
+        for (String clause : CLAUSES) {
+            for (int i = 0; clause.charAt(i) != ' '; i++) {
+                s.freshly(clause.substring(0, i) + "x" + clause.substring(i + 1), 0)
+                        .freshly(clause.substring(0, i) + clause.substring(i + 1), 0);
+            }
+        }
         s.freshly("home a`0", 6).freshly("home a{0", 6).freshly("uses 0 a`", 8).freshly("uses 0 a{", 8)
                 .freshly("home aA 0", 6).freshly("uses 0 aL", 8);
         new Script("rows of digits (as many as follow each other)").freshly("pages 0 1 1", 10).freshly("pages 00 09", -1)
